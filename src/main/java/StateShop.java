@@ -506,87 +506,7 @@ public final class StateShop {
         }
     }
 
-    /** Making smaller by splitters: how many pairs of a block and a letter are taken. */
-    private static final class Splitters {
-        private final long[] blocks = new long[MOST_STATES];
-        // Pairs come in by letters, at first and with each division: no more than so many.
-        private final int[] row = new int[MOST_STATES * MOST_LETTERS];
-        private final boolean[] waiting = new boolean[MOST_STATES * MOST_LETTERS];
-        private int count;
-        private int tail;
-
-        int countTaken(Machine m) {
-            begin(m);
-            int taken = 0;
-            while (taken < tail && taken < row.length) {
-                int pair = row[taken];
-                taken++;
-                waiting[pair] = false;
-                long sources = sources(m, blocks[pair / MOST_LETTERS], pair % MOST_LETTERS);
-                int there = count;
-                for (int b = 0; b < there; b++) {
-                    divide(b, sources, m.letters);
-                }
-            }
-            return taken;
-        }
-
-        private void begin(Machine m) {
-            for (int i = 0; i < waiting.length; i++) {
-                waiting[i] = false;
-            }
-            tail = 0;
-            long all = (1L << m.states) - 1;
-            long ends = m.endSet();
-            blocks[0] = m.ends[0] ? ends : all & ~ends;
-            blocks[1] = all & ~blocks[0];
-            count = blocks[1] == 0 ? 1 : 2;
-            for (int l = 0; l < m.letters && count == 2; l++) {
-                queue(fewer(0, 1), l);
-            }
-        }
-
-        private static long sources(Machine m, long block, int letter) {
-            long set = 0;
-            for (int s = 0; s < m.states; s++) {
-                if ((block >>> m.next(s, letter) & 1) != 0) {
-                    set |= 1L << s;
-                }
-            }
-            return set;
-        }
-
-        private void divide(int block, long sources, int letters) {
-            long inside = blocks[block] & sources;
-            long outside = blocks[block] & ~sources;
-            if (inside == 0 || outside == 0 || count >= MOST_STATES) {
-                return;
-            }
-            boolean leastInside = Long.numberOfTrailingZeros(inside) < Long.numberOfTrailingZeros(outside);
-            int added = count;
-            blocks[block] = leastInside ? inside : outside;
-            blocks[added] = leastInside ? outside : inside;
-            count++;
-            for (int l = 0; l < letters; l++) {
-                boolean asked = waiting[block * MOST_LETTERS + l];
-                queue(asked ? added : fewer(block, added), l);
-            }
-        }
-
-        private int fewer(int block, int added) {
-            return Long.bitCount(blocks[block]) < Long.bitCount(blocks[added]) ? block : added;
-        }
-
-        private void queue(int block, int letter) {
-            if (tail < row.length) {
-                row[tail] = block * MOST_LETTERS + letter;
-                waiting[row[tail]] = true;
-                tail++;
-            }
-        }
-    }
-
-    /** Makes machines from machines. All come into being in raw, in order, and are put as the smallest ones. */
+    /** Makes machines from machines. All come into being in raw, in order (START 0), and are put as the smallest ones. */
     private static final class Workshop {
         final Machine raw = new Machine(MOST_PAIRS);
         private final Machine arranged = new Machine(MOST_STATES);
@@ -594,7 +514,6 @@ public final class StateShop {
         private final Machine everything = new Machine(1);
         private final SetRow met = new SetRow();
         private final Classes classes = new Classes();
-        private final Splitters splitters = new Splitters();
         private final int[] codes = new int[MOST_PAIRS];
         private final int[] numbers = new int[CODES];
         private final int[] origins = new int[MOST_PAIRS];
@@ -617,26 +536,33 @@ public final class StateShop {
             classes.reduce(raw, target);
         }
 
-        /**
-         * There is just one smallest machine, so all ways put that of the rounds; the others are gone only as far
-         * as what is told. Turning the second time gives the smallest machine itself: never too many sets.
-         */
+        /** There is just one smallest machine, so all ways put that of the rounds, and tell what is theirs. */
         int shrink(Machine m, int way) {
+            int turnedStates = way == BY_TURNING ? countTurned(m) : 0;
+            if (turnedStates == ROOM) {
+                return ROOM;
+            }
+            makeSmallest(m, m);
+            switch (way) {
+                case BY_ROUNDS: return classes.rounds;
+                case BY_SPLITTERS: return countSplitters(m);
+                default: return turnedStates;
+            }
+        }
+
+        /**
+         * A pair for each letter comes into the row with the second block and with each one that is divided off,
+         * whichever block it names; all pairs are taken; and in the end there is a block for each smallest state.
+         */
+        private static int countSplitters(Machine smallest) {
+            return smallest.letters * (smallest.states - 1);
+        }
+
+        /** Turning a second time is not needed for ROOM: it gives the smallest machine, so at most MOST_STATES sets. */
+        private int countTurned(Machine m) {
             arrange(m);
-            int told = 0;
-            if (way == BY_SPLITTERS) {
-                told = splitters.countTaken(raw);
-            }
-            if (way == BY_TURNING) {
-                arranged.copyOf(raw);
-                if (!gather(TURNED, arranged, arranged)) {
-                    return ROOM;
-                }
-                told = raw.states;
-                arrange(m);
-            }
-            classes.reduce(raw, m);
-            return way == BY_ROUNDS ? classes.rounds : told;
+            arranged.copyOf(raw);
+            return gather(TURNED, arranged, arranged) ? raw.states : ROOM;
         }
 
         /** Puts a joined machine: its states, or ROOM. The target may be a or b. */
@@ -682,7 +608,6 @@ public final class StateShop {
             forgetPairs(a.states, b.states);
             raw.letters = Math.min(a.letters, b.letters);
             raw.states = 0;
-            raw.first = 0;
             meet(p << SHIFT | q, 0);
             for (int i = 0; i < raw.states && i < MOST_PAIRS; i++) {
                 int left = codes[i] >> SHIFT;
@@ -725,12 +650,12 @@ public final class StateShop {
         /** The sets of THEN, AGAIN or TURNED; false, if they are too many. */
         private boolean gather(int how, Machine a, Machine b) {
             raw.letters = a.letters;
-            raw.first = 0;
             met.clear();
             meetFirst(how, a, b);
             long ends = how == TURNED ? 1L << a.first : (how == THEN ? b : a).endSet();
             for (int i = 0; i < met.count && i < MOST_SETS; i++) {
                 raw.ends[i] = (met.sets[i] & ends) != 0 || how == AGAIN && i == 0;
+                Arrays.fill(setsAhead, 0L);
                 lookAhead(how, i, a, b);
                 for (int l = 0; l < a.letters; l++) {
                     int leader = how == THEN ? a.next(met.leaders[i], l) : 0;
@@ -777,7 +702,6 @@ public final class StateShop {
         }
 
         private void lookOn(long set, Machine m) {
-            Arrays.fill(setsAhead, 0);
             for (int s = 0; s < m.states; s++) {
                 if ((set >>> s & 1) != 0) {
                     for (int l = 0; l < m.letters; l++) {
@@ -788,7 +712,6 @@ public final class StateShop {
         }
 
         private void lookBack(long set, Machine m) {
-            Arrays.fill(setsAhead, 0);
             for (int s = 0; s < m.states; s++) {
                 for (int l = 0; l < m.letters; l++) {
                     if ((set >>> m.ways[s * m.letters + l] & 1) != 0) {
@@ -1064,12 +987,16 @@ public final class StateShop {
         /** The rows of all shorter lengths have been counted before. */
         private void countRow(Machine m, int length) {
             for (int s = 0; s < m.states; s++) {
-                long sum = length == 0 && m.ends[s] ? 1 : 0;
-                for (int l = 0; l < m.letters && length > 0; l++) {
-                    sum += from(m.next(s, l), length - 1);
-                }
-                taken[length * MOST_STATES + s] = sum;
+                taken[length * MOST_STATES + s] = length == 0 ? asNumber(m.ends[s]) : sumAhead(m, s, length);
             }
+        }
+
+        private long sumAhead(Machine m, int state, int length) {
+            long sum = 0;
+            for (int l = 0; l < m.letters; l++) {
+                sum += from(m.next(state, l), length - 1);
+            }
+            return sum;
         }
     }
 

@@ -20,6 +20,7 @@ public final class ModelTest {
         int from = args.length > 1 ? Integer.parseInt(args[1]) : 0;
         for (int seed = from; seed < from + seeds; seed++) {
             new ModelTest(seed).run();
+            new ModelTest(seed).shrinkInAllWays();
         }
         Check.finish();
     }
@@ -32,6 +33,18 @@ public final class ModelTest {
         }
         for (int slot = 0; slot < 6; slot++) {
             compareSlot(slot);
+        }
+    }
+
+    /** What is told depends on orders and ties that only machines with many classes show. */
+    private void shrinkInAllWays() {
+        int[] sizes = {6, 9, 15, 30, 60};
+        most = sizes[dice.nextInt(sizes.length)];
+        for (int way = 0; way < 3; way++) {
+            for (int i = 0; i < (way == 1 ? 12 : 3); i++) {
+                drawMachine(0);
+                due("smaller " + way, shop.smaller(0, way), model.smaller(0, way));
+            }
         }
     }
 
