@@ -2,15 +2,21 @@
 final class Check {
     private static int wrong = 0;
     private static int asked = 0;
+    private static String label = "";
 
     private Check() {
+    }
+
+    /** What stands before each wrong answer from now on. */
+    static void label(String text) {
+        label = text;
     }
 
     static void due(String call, long got, long want) {
         asked++;
         if (got != want) {
             wrong++;
-            System.out.println(call + " answered " + got + ", due is " + want);
+            System.out.println(label + call + " answered " + got + ", due is " + want);
         }
     }
 
@@ -18,7 +24,7 @@ final class Check {
         asked++;
         if (!got.equals(want)) {
             wrong++;
-            System.out.println(call + " gave \"" + got + "\", due is \"" + want + "\"");
+            System.out.println(label + call + " gave \"" + got + "\", due is \"" + want + "\"");
         }
     }
 

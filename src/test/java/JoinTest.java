@@ -1,17 +1,6 @@
 /** Promise 10: join. */
 public final class JoinTest {
     private static final int OUTSIDE = StateShop.OUTSIDE, STATE = StateShop.STATE, ROOM = StateShop.ROOM;
-    private static final String THEN_500_A = "2 0 -4,2 +2,3 -1,4 +2,2 -0,1";
-    private static final String THEN_500_B = "2 0 -5,0 -5,9 -1,8 -4,4 -7,2 -8,8 -4,4 -9,4 -7,1 -2,3";
-    private static final String THEN_501_A = "2 0 -1,3 -1,2 +3,4 -1,1 -0,3";
-    private static final String THEN_501_B = "2 0 -5,8 -2,0 -4,2 -3,7 -9,6 -6,3 -0,4 -3,6 -4,3 -1,1";
-    private static final String AGAIN_500 =
-        "2 0 +0,11 -11,11 -1,4 -9,7 -6,2 -2,8 -7,0 -6,6 +1,0 +10,1 -3,9 +5,12 -9,9";
-    private static final String AGAIN_501 =
-        "2 0 +0,9 -9,2 -5,1 -10,8 -11,7 +6,10 +8,4 -2,8 -1,6 +3,0 -0,7 +4,11";
-    private static final String TURNS_TO_500 = "-1,1 -2,3 +2,4 +4,5 +6,7 -8,8 -5,1 -3,9 +4,0 +3,2";
-    private static final String TURNS_TO_501 =
-        "-1,2 +3,4 -5,6 +7,7 -7,6 -8,6 -2,9 +10,8 -0,8 -2,10 -6,1";
 
     public static void main(String[] args) {
         takesWhatItShould();
@@ -127,21 +116,21 @@ public final class JoinTest {
 
     private static void roomOfSets() {
         StateShop shop = new StateShop();
-        Check.build(shop, 0, THEN_500_A);
-        Check.build(shop, 1, THEN_500_B);
+        Check.build(shop, 0, Found.THEN_500_A);
+        Check.build(shop, 1, Found.THEN_500_B);
         Check.due("then, 500 sets", shop.join(5, 4, 0, 1), 1);
-        Check.build(shop, 0, THEN_501_A);
-        Check.build(shop, 1, THEN_501_B);
+        Check.build(shop, 0, Found.THEN_501_A);
+        Check.build(shop, 1, Found.THEN_501_B);
         Check.due("then, 501 sets", shop.join(5, 4, 0, 1), ROOM);
-        Check.build(shop, 0, AGAIN_500);
+        Check.build(shop, 0, Found.AGAIN_500);
         Check.due("again, 500 sets", shop.join(5, 5, 0, 0), 1);
-        Check.build(shop, 0, AGAIN_501);
+        Check.build(shop, 0, Found.AGAIN_501);
         Check.due("again, 501 sets", shop.join(5, 5, 0, 0), ROOM);
         Check.due("behind ROOM nothing is changed", Check.show(shop, 5), "2 0 +0,0");
         // The machine is turned as it is, with the states that its START does not come to.
-        Check.build(shop, 0, "2 10 " + TURNS_TO_500 + " -10,10");
+        Check.build(shop, 0, Found.from(10, Found.TURNS_TO_500) + " -10,10");
         Check.due("turned, 500 sets", shop.join(5, 6, 0, 0), 1);
-        Check.build(shop, 0, "2 11 " + TURNS_TO_501 + " -11,11");
+        Check.build(shop, 0, Found.from(11, Found.TURNS_TO_501) + " -11,11");
         Check.due("turned, 501 sets", shop.join(5, 6, 0, 0), ROOM);
     }
 

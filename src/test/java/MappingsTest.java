@@ -1,8 +1,6 @@
 /** Promises 22 to 24: mappings, maps, mapping. */
 public final class MappingsTest {
     private static final int NONE = StateShop.NONE, OUTSIDE = StateShop.OUTSIDE, ROOM = StateShop.ROOM;
-    private static final String MAPS_400 = "2 0 -4,5 -3,5 +3,0 +1,4 -4,2 -2,2";
-    private static final String MAPS_401 = "2 0 +1,5 -4,2 +1,0 -2,3 -3,3 -4,1";
 
     public static void main(String[] args) {
         before();
@@ -88,11 +86,11 @@ public final class MappingsTest {
 
     private static void room() {
         StateShop shop = new StateShop();
-        Check.build(shop, 0, MAPS_400);
+        Check.build(shop, 0, Found.MAPS_400);
         Check.due("400 mappings", shop.mappings(0), 400);
         Check.due("the last one", shop.maps(399, 5) >= 0 ? 1 : 0, 1);
         Check.due("mapping 4 of 400", shop.mapping(4) > 0 ? 1 : 0, 1);
-        Check.build(shop, 1, MAPS_401);
+        Check.build(shop, 1, Found.MAPS_401);
         Check.due("401 mappings", shop.mappings(1), ROOM);
         Check.due("mapping behind ROOM", shop.mapping(0), NONE);
         Check.due("mapping 5 behind ROOM", shop.mapping(5), OUTSIDE);

@@ -3,9 +3,6 @@ public final class SmallerTest {
     private static final String EVEN_WIDE = "2 0 +1,2 -2,3 +3,0 -0,1 +4,4";
     private static final String EVEN = "2 0 +1,0 -0,1";
     private static final String CHAIN = "1 0 -1 -2 -3 +3";
-    private static final String TURNS_TO_500 = "2 0 -1,1 -2,3 +2,4 +4,5 +6,7 -8,8 -5,1 -3,9 +4,0 +3,2";
-    private static final String TURNS_TO_501 =
-        "2 0 -1,2 +3,4 -5,6 +7,7 -7,6 -8,6 -2,9 +10,8 -0,8 -2,10 -6,1";
 
     public static void main(String[] args) {
         allWaysPutTheSmallest();
@@ -63,11 +60,11 @@ public final class SmallerTest {
         shrink(CHAIN, 2, 4, CHAIN);
         shrink("1 1 +0 +0", 2, 1, "1 0 +0");
         shrink("3 1 -0,1,0 -0,1,1", 2, 1, "3 0 -0,0,0");
-        shrink(TURNS_TO_500, 2, 500, TURNS_TO_500);
-        shrink(TURNS_TO_501, 2, StateShop.ROOM, TURNS_TO_501);
+        shrink(Found.TURNS_TO_500, 2, 500, Found.TURNS_TO_500);
+        shrink(Found.TURNS_TO_501, 2, StateShop.ROOM, Found.TURNS_TO_501);
         // Only states that the START comes to are looked at; and behind ROOM it is not even in order.
-        shrink(TURNS_TO_501.replaceFirst("2 0", "2 11") + " +11,11", 2, 1, "2 0 +0,0");
-        shrink(TURNS_TO_501 + " +11,11", 2, StateShop.ROOM, TURNS_TO_501 + " +11,11");
+        shrink(Found.from(11, Found.TURNS_TO_501) + " +11,11", 2, 1, "2 0 +0,0");
+        shrink(Found.TURNS_TO_501 + " +11,11", 2, StateShop.ROOM, Found.TURNS_TO_501 + " +11,11");
     }
 
     private static void wrongInputs() {
