@@ -441,17 +441,16 @@ public final class StateShop {
         /** Puts the smallest machine of m, which is in order: its states, or ROOM. */
         int reduce(Machine m, Machine target) {
             begin(m);
-            rounds = 0;
-            int before;
-            do {
+            int before = 0;
+            // From two classes on, each round but the last makes more: MOST_STATES rounds are never needed.
+            for (rounds = 0; count > before && count <= MOST_STATES && rounds < MOST_STATES; rounds++) {
                 before = count;
                 System.arraycopy(now, 0, old, 0, m.states);
                 // Classes never become fewer, so too many of them are a reason to stop early.
                 for (int l = 0; l < m.letters && count <= MOST_STATES; l++) {
                     divideBy(m, l);
                 }
-                rounds++;
-            } while (count > before && count <= MOST_STATES);
+            }
             if (count > MOST_STATES) {
                 return ROOM;
             }
@@ -881,17 +880,22 @@ public final class StateShop {
             m.leadAll(0, 1);
         }
 
-        /** What a letter, '.' or '0' takes, by a state 1 that accepts and a state 2 that nothing leaves. */
+        /** What a letter, '.' or '0' takes. The first letter goes to state 1, so that the machine is in order. */
         private void pushLetters() {
             Machine m = push();
-            m.reset(letters, 3);
-            m.ends[1] = true;
-            m.leadAll(0, sees('.') ? 1 : 2);
-            m.leadAll(1, 2);
-            if (seesLetter()) {
-                m.lead(0, tape.letter(place), 1);
+            if (sees('0')) {
+                m.reset(letters, 1);
+                return;
             }
-            workshop.makeSmallest(m, m);
+            int taken = sees('.') || sees('a') ? 1 : 2;
+            int lost = 3 - taken;
+            m.reset(letters, 3);
+            m.ends[taken] = true;
+            m.leadAll(0, sees('.') ? taken : lost);
+            m.leadAll(taken, lost);
+            if (seesLetter()) {
+                m.lead(0, tape.letter(place), taken);
+            }
         }
 
         private void change(int how) {

@@ -228,6 +228,23 @@ public final class ReadBoundaryTest {
         is(shop, 4, ".", "4 0 -1,1,1,1 +2,2,2,2 -2,2,2,2");
     }
 
+    @Says(at = "Promise 13", words = "its smallest machine is put into a slot: its states")
+    static void eachAtomIsPutAsItsSmallestMachine(StateShop shop) {
+        for (int k = 1; k <= 4; k++) {
+            for (char atom : "abcd".substring(0, k).concat(".0").toCharArray()) {
+                int states = Check.read(shop, 0, k, String.valueOf(atom));
+                Check.due("read " + atom + " of " + k, states, atom == '0' ? 1 : 3);
+                String shown = Check.show(shop, 0);
+                shop.smaller(0, 0);
+                Check.due(atom + " of " + k + " made smaller", Check.show(shop, 0), shown);
+                for (char letter : "abcd".substring(0, k).toCharArray()) {
+                    int due = atom == letter || atom == '.' ? 1 : 0;
+                    Check.due(atom + " takes " + letter, Check.takes(shop, 0, String.valueOf(letter)), due);
+                }
+            }
+        }
+    }
+
     @Says(at = "Terms", words = "'0' (no word)")
     static void noWord(StateShop shop) {
         is(shop, 2, "0", NO_WORD);
